@@ -277,6 +277,13 @@ public final class AnswersTest {
         Checks.due("17 now 0", x.ifAway(0), 1);
         Checks.due("17 nothing changed", x.fixer(0, 2), 1);
         Checks.due("17 nothing changed", x.planned(), 2);
+        x.pass(1);
+        Checks.bring(x, "06");
+        Checks.due("17 thing 0 is being done", x.thing(0, 0), 1);
+        Checks.due("17 two who can", x.ifAway(2), 1);
+        x.away(1, true);
+        Checks.due("17 fixer 2 alone", x.planned(), 1);
+        Checks.due("17 nobody else", x.ifAway(2), 0);
     }
 
     private static void promise18BestSkill() {

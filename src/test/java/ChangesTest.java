@@ -122,6 +122,17 @@ public final class ChangesTest {
         Checks.due("3 fixers", x.count(0), 7);
         Checks.due("3 come again", x.come(9, 3), 7);
         Checks.dueRow("3 fixer 7", Checks.fixerRow(x, 7), 9, 3, 1, NONE, 0, 0);
+        MendingMornings y = new MendingMornings();
+        y.come(1, 1);
+        Checks.bring(y, "01;02");
+        y.pass(2);
+        y.away(0, true);
+        Checks.dueRow("3 at work", Checks.fixerRow(y, 0), 1, 1, 0, 1, 2, 1);
+        while (y.count(0) > 0 && y.undo() >= 0) {
+            Checks.due("3 undone", y.count(16) < 4 ? 1 : 0, 1);
+        }
+        Checks.due("3 another one comes", y.come(2, 2), 0);
+        Checks.dueRow("3 nothing is left of the one before", Checks.fixerRow(y, 0), 2, 2, 1, NONE, 0, 0);
     }
 
     private static void promise4Away() {
