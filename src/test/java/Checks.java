@@ -70,6 +70,30 @@ final class Checks {
         return row;
     }
 
+    /** Everything that can be seen of a morning, but for the pad and the history. */
+    static String seen(MendingMornings x) {
+        StringBuilder text = new StringBuilder();
+        for (int what = 0; what < 15; what++) {
+            text.append(x.count(what)).append(' ');
+        }
+        for (int i = 0; i < x.count(0); i++) {
+            for (int what = 0; what < 6; what++) {
+                text.append(x.fixer(i, what)).append(' ');
+            }
+        }
+        for (int i = 0; i < x.count(1); i++) {
+            for (int what = 0; what < 8; what++) {
+                text.append(x.thing(i, what)).append(' ');
+            }
+            for (int step = 0; step < x.thing(i, 1); step++) {
+                for (int what = 0; what < 3; what++) {
+                    text.append(x.step(i, step, what)).append(' ');
+                }
+            }
+        }
+        return text.toString();
+    }
+
     static void end(String name) {
         System.out.println(name + ": " + right + " answers as due, " + wrong + " not");
         if (wrong != 0 || right == 0) {

@@ -15,30 +15,6 @@ public final class UndoTest {
         Checks.end("UndoTest");
     }
 
-    /** Everything that can be seen of a morning, but for the pad and the history. */
-    private static String seen(MendingMornings x) {
-        StringBuilder text = new StringBuilder();
-        for (int what = 0; what < 15; what++) {
-            text.append(x.count(what)).append(' ');
-        }
-        for (int i = 0; i < x.count(0); i++) {
-            for (int what = 0; what < 6; what++) {
-                text.append(x.fixer(i, what)).append(' ');
-            }
-        }
-        for (int i = 0; i < x.count(1); i++) {
-            for (int what = 0; what < 8; what++) {
-                text.append(x.thing(i, what)).append(' ');
-            }
-            for (int step = 0; step < x.thing(i, 1); step++) {
-                for (int what = 0; what < 3; what++) {
-                    text.append(x.step(i, step, what)).append(' ');
-                }
-            }
-        }
-        return text.toString();
-    }
-
     private static void dueSame(String call, String got, String want) {
         Checks.due(call + ", not as before: " + got + " / " + want, got.equals(want) ? 1 : 0, 1);
     }
@@ -82,12 +58,12 @@ public final class UndoTest {
             MendingMornings x = busyMorning();
             x.save(0);
             x.come(1, 2);
-            String before = seen(x);
+            String before = Checks.seen(x);
             Checks.due("25 full", x.count(16), 6);
             Checks.due("25 change " + which, change(x, which) >= 0 ? 1 : 0, 1);
             Checks.due("25 still full", x.count(16), 6);
             Checks.due("25 undo " + which, x.undo(), 5);
-            dueSame("25 undo " + which, seen(x), before);
+            dueSame("25 undo " + which, Checks.seen(x), before);
         }
         Checks.due("25 given up, for again", busyMorning().thing(2, 0), 3);
     }
@@ -174,12 +150,12 @@ public final class UndoTest {
         String[] states = new String[6];
         int[] changes = {8, 6, 4, 10, 5, 9};
         for (int i = 0; i < 6; i++) {
-            states[i] = seen(x);
+            states[i] = Checks.seen(x);
             change(x, changes[i]);
         }
         for (int i = 5; i >= 0; i--) {
             Checks.due("25 undo", x.undo(), i);
-            dueSame("25 state " + i, seen(x), states[i]);
+            dueSame("25 state " + i, Checks.seen(x), states[i]);
         }
     }
 
@@ -207,20 +183,20 @@ public final class UndoTest {
     private static void promise26KeepsAll() {
         MendingMornings x = busyMorning();
         x.save(0);
-        String before = seen(x);
+        String before = Checks.seen(x);
         for (int which = 0; which < 12; which++) {
             change(x, which);
         }
         Checks.due("26 restore", x.restore(0), 5);
-        dueSame("26 all is there", seen(x), before);
+        dueSame("26 all is there", Checks.seen(x), before);
         x.pass(3);
-        String later = seen(x);
+        String later = Checks.seen(x);
         x.save(1);
         x.undo();
         Checks.due("26 the place keeps it", x.restore(0), 5);
-        dueSame("26 all is there", seen(x), before);
+        dueSame("26 all is there", Checks.seen(x), before);
         Checks.due("26 what was saved is not undone", x.restore(1), 5);
-        dueSame("26 the later one", seen(x), later);
+        dueSame("26 the later one", Checks.seen(x), later);
         Checks.due("26 with another history", x.count(16), 6);
     }
 
