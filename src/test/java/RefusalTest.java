@@ -142,8 +142,8 @@ public final class RefusalTest {
             calls.append("count ").append(what).append('\n');
         }
         for (int fixer = 0; fixer < FIXERS[morning]; fixer++) {
-            calls.append("plan ").append(fixer).append(" | ifAway ").append(fixer).append(""
-            + "| fixer ").append(fixer).append(" 3\n");
+            calls.append("plan ").append(fixer).append(" | ifAway ").append(fixer);
+            calls.append(" | fixer ").append(fixer).append(" 3\n");
         }
         for (int thing = 0; thing < THINGS[morning]; thing++) {
             calls.append("thing ").append(thing).append(" 2 | step ").append(thing).append(" 0 2\n");

@@ -80,9 +80,8 @@ public final class TermsTest {
                 + "| thing 0 0 = GIVEN_UP");
         }
         for (int work = 1; work <= 9; work++) {
-            Script.run("TEST (1 to 9), the work of a safety test", "set 1 " + work + " = 2 | count 14 = " + work + ""
-            + "| count 13 = 6"
-                + "| come 63 1 = 0 | text 01 = 2 | bring = 1 | pass 2 = 0 | fixer 0 4 = " + work
+            Script.run("TEST (1 to 9), the work of a safety test", "set 1 " + work + " = 2 | count 14 = " + work
+                + " | count 13 = 6 | come 63 1 = 0 | text 01 = 2 | bring = 1 | pass 2 = 0 | fixer 0 4 = " + work
                 + (work == 1 ? "" : " | pass " + (work - 1) + " = 0 | fixer 0 4 = 1") + " | pass 1 = 1");
         }
     }
